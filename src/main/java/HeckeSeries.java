@@ -152,7 +152,7 @@ public final class HeckeSeries {
         if (n < HEAD) {
             return form.head[n];
         }
-        return spaces.ready(form.weight, prime).expand(form.head, n);
+        return spaces.ready(form.weight, prime, n).expand(form.head, n);
     }
 
     public int weight(int register) {
@@ -231,12 +231,17 @@ public final class HeckeSeries {
         return registers[r].weight;
     }
 
+    /** Hecke n of a form's last coefficient that tells it needs the one n times as far on. */
+    private Space readyForHecke(int weight, int n) {
+        return spaces.ready(weight, prime, cuspsOf(weight) * n);
+    }
+
     public boolean hecke(int r, int n) {
         if (!isRegister(r) || !isHecke(n)) {
             return false;
         }
         Form form = registers[r];
-        Space space = spaces.ready(form.weight, prime);
+        Space space = readyForHecke(form.weight, n);
         scratch.setNumber(0);
         for (int m = 0; m < space.length; m++) {
             scratch.head[m] = space.heckeAt(form.head, n, m);
@@ -255,7 +260,7 @@ public final class HeckeSeries {
         if (first < 0) {
             return NEITHER;
         }
-        Space space = spaces.ready(registers[r].weight, prime);
+        Space space = readyForHecke(registers[r].weight, n);
         int factor = Left.divide(space.heckeAt(head, n, first), head[first], prime);
         for (int m = 0; m < space.length; m++) {
             if (space.heckeAt(head, n, m) != Left.of((long) factor * head[m], prime)) {
@@ -303,7 +308,7 @@ public final class HeckeSeries {
         if (i < 1 || i > size || j < 1 || j > size) {
             return NONE;
         }
-        Space space = spaces.ready(weight, prime);
+        Space space = readyForHecke(weight, n);
         return space.heckeAt(space.basis[i], n, j);
     }
 
@@ -311,7 +316,7 @@ public final class HeckeSeries {
         if (!isWeight(weight) || !isHecke(n) || i < 0 || i > cuspsOf(weight)) {
             return NONE;
         }
-        operator.load(spaces.ready(weight, prime), n);
+        operator.load(readyForHecke(weight, n), n);
         operator.findPolynomial();
         return operator.polynomial[i];
     }
@@ -328,7 +333,7 @@ public final class HeckeSeries {
     }
 
     private Space spaceWithRoots(int weight) {
-        Space space = spaces.ready(weight, prime);
+        Space space = spaces.ready(weight, prime, cuspsOf(weight) * 2);
         if (space.rootsFor != prime) {
             operator.load(space, 2);
             operator.findPolynomial();
@@ -542,6 +547,8 @@ public final class HeckeSeries {
         final int length;
         int[][] basis = new int[0][0];
         int prime;
+        /** The last coefficient that the rows of the basis tell. */
+        private int last;
         final int[] roots = new int[HEAD];
         int rootCount;
         int rootsFor;
@@ -551,27 +558,32 @@ public final class HeckeSeries {
             this.length = lengthOf(weight);
         }
 
+        boolean isReady(int wantedPrime, int wantedLast) {
+            return prime == wantedPrime && last >= wantedLast;
+        }
+
         /** Rows are made when they are first needed, once: most objects use few weights. */
-        private void begin(int newPrime) {
+        private void begin(int newPrime, int newLast) {
             prime = newPrime;
+            last = newLast;
             if (basis.length != length) {
                 basis = new int[length][LAST_COEFFICIENT + 1];
             }
         }
 
         /** Weights with one form alone: with 1 at first, it is ONE or a series of sums of powers. */
-        void makeAlone(int newPrime) {
-            begin(newPrime);
+        void makeAlone(int newPrime, int newLast) {
+            begin(newPrime, newLast);
             int[] series = basis[0];
             Arrays.fill(series, 0);
             int factor = Left.of(factorOfSums(), prime);
-            for (int d = 1; d <= LAST_COEFFICIENT; d++) {
+            for (int d = 1; d <= last; d++) {
                 int power = Left.power(d, weight - 1, prime);
-                for (int n = d; n <= LAST_COEFFICIENT; n += d) {
+                for (int n = d; n <= last; n += d) {
                     series[n] += power;
                 }
             }
-            for (int n = 1; n <= LAST_COEFFICIENT; n++) {
+            for (int n = 1; n <= last; n++) {
                 series[n] = Left.of((long) series[n] * factor, prime);
             }
             series[0] = 1;
@@ -594,21 +606,21 @@ public final class HeckeSeries {
             }
         }
 
-        void makeTwelve(Space four, Space six, Space eight) {
-            begin(four.prime);
+        void makeTwelve(Space four, Space six, Space eight, int newLast) {
+            begin(four.prime, newLast);
             int[] cube = basis[0];
             int[] delta = basis[1];
             multiply(cube, four.basis[0], eight.basis[0]);
             multiply(delta, six.basis[0], six.basis[0]);
             int part = Left.divide(1, 1728, prime);
-            for (int n = 0; n <= LAST_COEFFICIENT; n++) {
+            for (int n = 0; n <= last; n++) {
                 delta[n] = Left.of((long) (cube[n] - delta[n]) * part, prime);
             }
             reduce();
         }
 
-        void makeFrom(Space lower, Space twelve) {
-            begin(twelve.prime);
+        void makeFrom(Space lower, Space twelve, int newLast) {
+            begin(twelve.prime, newLast);
             multiply(basis[0], lower.basis[0], twelve.basis[0]);
             for (int i = 1; i < length; i++) {
                 multiply(basis[i], lower.basis[i - 1], twelve.basis[1]);
@@ -617,7 +629,7 @@ public final class HeckeSeries {
         }
 
         private void multiply(int[] into, int[] one, int[] other) {
-            for (int n = 0; n <= LAST_COEFFICIENT; n++) {
+            for (int n = 0; n <= last; n++) {
                 long sum = 0;
                 for (int i = 0; i <= n; i++) {
                     sum += (long) one[i] * other[n - i];
@@ -636,7 +648,7 @@ public final class HeckeSeries {
         }
 
         private void subtract(int[] from, int[] other, int factor) {
-            for (int n = 0; n <= LAST_COEFFICIENT; n++) {
+            for (int n = 0; n <= last; n++) {
                 from[n] = Left.of(from[n] - (long) factor * other[n], prime);
             }
         }
@@ -677,6 +689,8 @@ public final class HeckeSeries {
     /** The spaces of all weights; each is worked out when it is first asked for with a prime. */
     private static final class Spaces {
         private static final int STEP = 12;
+        /** Most calls need few coefficients: rows up to here cost a small part of whole ones. */
+        private static final int NEAR = 36;
 
         private final Space[] all = new Space[LAST_WEIGHT / 2 + 1];
 
@@ -686,38 +700,40 @@ public final class HeckeSeries {
             }
         }
 
-        Space ready(int weight, int prime) {
+        /** The space of a weight, with coefficients 0 to n at least. */
+        Space ready(int weight, int prime, int n) {
             Space wanted = all[weight / 2];
-            if (wanted.prime == prime) {
+            int last = n <= NEAR ? NEAR : LAST_COEFFICIENT;
+            if (wanted.isReady(prime, last)) {
                 return wanted;
             }
             int least = weight % STEP == 2 ? STEP + 2 : weight % STEP;
             if (least <= weight) {
-                makeAlone(least, prime);
+                makeAlone(least, prime, last);
             }
             if (least < weight) {
-                makeTwelve(prime);
+                makeTwelve(prime, last);
             }
             for (int made = least + STEP; made <= weight; made += STEP) {
-                if (all[made / 2].prime != prime) {
-                    all[made / 2].makeFrom(all[(made - STEP) / 2], all[STEP / 2]);
+                if (!all[made / 2].isReady(prime, last)) {
+                    all[made / 2].makeFrom(all[(made - STEP) / 2], all[STEP / 2], last);
                 }
             }
             return wanted;
         }
 
-        private void makeAlone(int weight, int prime) {
-            if (all[weight / 2].prime != prime) {
-                all[weight / 2].makeAlone(prime);
+        private void makeAlone(int weight, int prime, int last) {
+            if (!all[weight / 2].isReady(prime, last)) {
+                all[weight / 2].makeAlone(prime, last);
             }
         }
 
-        private void makeTwelve(int prime) {
-            if (all[STEP / 2].prime != prime) {
-                makeAlone(4, prime);
-                makeAlone(6, prime);
-                makeAlone(8, prime);
-                all[STEP / 2].makeTwelve(all[4 / 2], all[6 / 2], all[8 / 2]);
+        private void makeTwelve(int prime, int last) {
+            if (!all[STEP / 2].isReady(prime, last)) {
+                makeAlone(4, prime, last);
+                makeAlone(6, prime, last);
+                makeAlone(8, prime, last);
+                all[STEP / 2].makeTwelve(all[4 / 2], all[6 / 2], all[8 / 2], last);
             }
         }
     }
@@ -797,8 +813,8 @@ public final class HeckeSeries {
         }
 
         /**
-         * The factors of the cusps (the first being 1) that make the form which the table multiplies
-         * by the root, into a head's places 1 to size; false if there are none or several.
+         * The factors of the cusps (the first being 1) that make the form which the table
+         * multiplies by the root, into a head's places 1 to size; false if there are none or several.
          */
         boolean findOwn(int root, int[] head) {
             layEquations(root);
@@ -832,13 +848,19 @@ public final class HeckeSeries {
         private boolean liftPivot(int column) {
             for (int row = column; row < size; row++) {
                 if (work[row][column] != 0) {
-                    int[] lifted = work[row];
-                    work[row] = work[column];
-                    work[column] = lifted;
+                    exchange(work[row], work[column]);
                     return true;
                 }
             }
             return false;
+        }
+
+        private void exchange(int[] one, int[] other) {
+            for (int j = 0; j < size; j++) {
+                int held = one[j];
+                one[j] = other[j];
+                other[j] = held;
+            }
         }
 
         private void clearColumn(int pivot) {
