@@ -242,7 +242,6 @@ public final class HeckeSeries {
         }
         Form form = registers[r];
         Space space = readyForHecke(form.weight, n);
-        scratch.setNumber(0);
         for (int m = 0; m < space.length; m++) {
             scratch.head[m] = space.heckeAt(form.head, n, m);
         }
@@ -940,7 +939,7 @@ public final class HeckeSeries {
         private static final long LIMIT = 1L << 62;
         private static final int LAST_N = 60;
         private static final int ROOT_STEPS = 20;
-        private static final int MOST_HALVINGS = 300;
+        private static final int MOST_DOUBLINGS = 150;
         private static final int LEAST_MANTISSA = 1 << 23;
         /** The exponent in a float's bits when its mantissa is read as a whole number. */
         private static final int WHOLE_EXPONENT = 150;
@@ -1051,18 +1050,17 @@ public final class HeckeSeries {
             return (float) exact / (2f * size * (float) cusps);
         }
 
-        /** As Float.floatToIntBits, which LANGUAGE.md leaves out; of floats that are 0 or normal. */
+        /**
+         * As Float.floatToIntBits, which LANGUAGE.md leaves out, of what a share can be: 0, or with
+         * a size between 2 to the -100 and 2 to the 24.
+         */
         static int bitsOf(float number) {
             if (number == 0f) {
                 return 0;
             }
             float mantissa = number < 0f ? -number : number;
             int exponent = WHOLE_EXPONENT;
-            for (int i = 0; i < MOST_HALVINGS && mantissa >= (float) (2 * LEAST_MANTISSA); i++) {
-                mantissa = mantissa / 2f;
-                exponent++;
-            }
-            for (int i = 0; i < MOST_HALVINGS && mantissa < (float) LEAST_MANTISSA; i++) {
+            for (int i = 0; i < MOST_DOUBLINGS && mantissa < (float) LEAST_MANTISSA; i++) {
                 mantissa = mantissa * 2f;
                 exponent--;
             }

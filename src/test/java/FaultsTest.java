@@ -12,6 +12,7 @@ public final class FaultsTest {
         weightsTooGreat();
         whichComesFirst();
         whatStaysAtAFault();
+        whereABookEnds();
         due.end();
     }
 
@@ -39,6 +40,7 @@ public final class FaultsTest {
         reads("let a be four;let b be a*a;let c be b-a^2;let d be 0;let e be (a);", 5);
         reads("let a be 1;let b be 2;let c be 3;let d be 4;let e be 5;let f be 6;", 6);
         reads("let abcdef be four^15;", 1);
+        reads("let ab be 1;let ba be 2;let a be 3;let aa be 4;let b be 5;let bb be 6;", 6);
         reads("let a be ((((((((four))))))));", 1);
         reads("let a be ((1)*(((((((2))))))));", 1);
         reads("let a be delta^5*delta^0*six^0;", 1);
@@ -60,6 +62,9 @@ public final class FaultsTest {
         faults("let a be 1;\n ~\r", 1);
         faults("let a be 1;~\u00ff", 1);
         faults("~Let a be 1;", 1);
+        faults("~be a be 1;", 1);
+        faults("let a ~let 1;", 1);
+        faults("let a ~four 1;", 1);
         faults("prime~", 1);
         faults("prime ~;", 1);
         faults("prime ~a;", 1);
@@ -127,6 +132,9 @@ public final class FaultsTest {
         faults("prime ~00101;", 4);
         faults("prime ~10007;", 4);
         faults("prime ~9409;", 4);
+        faults("prime ~106;", 4);
+        faults("prime ~9998;", 4);
+        faults("prime ~9969;", 4);
         faults("let a be ~10000;", 4);
         faults("let a be ~00001;", 4);
         faults("let a be four*~12345678901234567890;", 4);
@@ -188,6 +196,21 @@ public final class FaultsTest {
         faults("let a be four+six*~b;", 3);
         faults("let a be four+(six+~four);", 6);
         faults("let a be ~b$", 3);
+    }
+
+    /** Bytes behind the first n are no part of the book, even if a token would go on with them. */
+    private static void whereABookEnds() {
+        due.part("ends");
+        int[][] want = {{3, 3}, {4, 4}, {5, 5}, {6, 6}, {10, 10}, {11, 11}, {14, 14}, {1, 0}, {2, 0}};
+        for (int[] pair : want) {
+            HeckeSeries x = new HeckeSeries();
+            Due.feed(x, "let ab be 12345;".getBytes());
+            due.same("the first " + pair[0], x.book(pair[0]), Due.fault(1, pair[1]));
+        }
+        reads("let a be " + "1+".repeat(294) + "1; ", 1);
+        reads("let ab be " + "1+".repeat(294) + "1;", 1);
+        faults("let a be " + "1+".repeat(295) + "1", 1, 600);
+        faults(")".repeat(600), 1, 0);
     }
 
     private static void whatStaysAtAFault() {

@@ -248,7 +248,8 @@ public final class PromisesTest {
         }
         long[][] want = {{18, 2, -528}, {20, 2, 456}, {22, 2, -288}, {26, 2, -48}, {24, 2, 1080},
             {24, 3, 339480}, {16, 60, -2422959920640L}, {26, 7, 39080597192L}, {60, 1, 5},
-            {60, 2, -449691864}, {14, 60, 0}, {12, 60, -1791659520}, {60, 4, HUGE}, {24, 32, HUGE}, {24, 60, HUGE}, {60, 60, HUGE}, {22, 47, HUGE}};
+            {60, 2, -449691864}, {14, 60, 0}, {12, 60, -1791659520}, {60, 4, HUGE}, {24, 32, HUGE},
+            {24, 60, HUGE}, {60, 60, HUGE}, {22, 47, HUGE}};
         for (long[] row : want) {
             due.same("trace " + row[0] + ", " + row[1], x.trace((int) row[0], (int) row[1]), row[2]);
         }
@@ -525,6 +526,12 @@ public final class PromisesTest {
             due.same("others", x.root(weight, -1), -1);
             due.same("others", x.root(weight, 0), -1);
         }
+        HeckeSeries zero = Due.with("prime 107;");
+        due.same("a root 0", zero.root(28, -1), 2);
+        due.same("a root 0", zero.root(28, 0), 0);
+        due.same("a root 0", zero.root(28, 1), 66);
+        due.same("a root 0 and its own", zero.own(0, 28, 0), 0);
+        due.same("is multiplied by 0", zero.multiplies(0, 2), 0);
         due.same("another prime", Due.book(x, "prime 101;"), 0);
         due.same("another's roots", x.root(24, -1), 0);
         due.same("another's roots", x.root(60, 0), 52);
