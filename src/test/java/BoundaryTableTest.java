@@ -24,6 +24,7 @@ public final class BoundaryTableTest {
         ownForms();
         ownIsACusp();
         ownOfADoubleRoot();
+        ownWhereEquationsChangePlaces();
         notJustOne();
         otherOwn();
         b.end();
@@ -249,6 +250,16 @@ public final class BoundaryTableTest {
         ownIs(131, 28, 0, 0, 1, 52, 70, 109, 7, 103);
         ownIs(227, 46, 0, 0, 1, 5, 157, 137, 108, 104);
         ownIs(677, 52, 1, 0, 1, 543, 347, 173, 167, 215);
+    }
+
+    /** Roots at which an equation must change places with another, or it would be lost. */
+    private static void ownWhereEquationsChangePlaces() {
+        b.sentence("terms", "HECKE 2 of which is that ROOT times it, if there is just one.");
+        ownIs(271, 52, 0, 0, 1, 110, 174, 10, 245, 170);
+        ownIs(467, 48, 1, 0, 1, 371, 323, 23, 453, 281);
+        ownIs(2551, 52, 1, 0, 1, 2183, 1736, 1939, 1679, 1453);
+        ownIs(2857, 60, 1, 0, 1, 420, 2540, 2379, 2370, 1139);
+        ownIs(3877, 56, 1, 0, 1, 3841, 2855, 3616, 3639, 1899);
     }
 
     private static void notJustOne() {
