@@ -265,23 +265,26 @@ public final class BoundaryNumberTest {
         trace(10, 59, 0);
     }
 
+    private static void isHuge(int weight, int n, boolean want) {
+        b.same("trace " + weight + ", " + n + " is HUGE", new HeckeSeries().trace(weight, n) == HUGE, want);
+    }
+
     private static void hugeOnTheWay() {
         b.sentence("terms", "HUGE: something on the way above 2 to the 62 or below less it");
-        HeckeSeries x = new HeckeSeries();
         for (int[] pair : LAST_BEFORE_HUGE) {
             for (int n = 1; n <= pair[1]; n++) {
-                b.same("trace " + pair[0] + ", " + n + " is HUGE", x.trace(pair[0], n) == HUGE, false);
+                isHuge(pair[0], n, false);
             }
             trace(pair[0], pair[1] + 1, HUGE);
             trace(pair[0], 60, HUGE);
         }
         for (int weight = 4; weight <= 20; weight += 2) {
             for (int n = 1; n <= 60; n++) {
-                b.same("trace " + weight + ", " + n + " is HUGE", x.trace(weight, n) == HUGE, false);
+                isHuge(weight, n, false);
             }
         }
         for (int n = 43; n <= 60; n++) {
-            b.same("trace 22, " + n + " is HUGE", x.trace(22, n) == HUGE, n != 45 && n != 46);
+            isHuge(22, n, n != 45 && n != 46);
         }
         trace(24, 30, -155926924188644160L);
     }

@@ -54,8 +54,8 @@ public final class BoundaryTableTest {
 
     private static void tableOfOne() {
         b.sentence("promise 21", "of TABLE (weight 0 to 60, even, n 1 to 30); NONE: others.");
-        HeckeSeries x = new HeckeSeries();
         for (int weight = 0; weight <= 60; weight += 2) {
+            HeckeSeries x = new HeckeSeries();
             int size = x.makes(weight, true);
             for (int i = 0; i <= size + 1; i++) {
                 for (int j = 0; j <= size + 1; j++) {

@@ -103,11 +103,12 @@ public final class DefinitionsTest {
     private static void tracesByTables() {
         due.part("traces by tables");
         for (int prime : PRIMES) {
-            HeckeSeries x = Due.with("prime " + prime + ";");
             for (int weight = 4; weight <= 60; weight += 2) {
+                HeckeSeries x = Due.with("prime " + prime + ";");
+                int size = x.makes(weight, true);
                 for (int n = 1; n <= 30; n++) {
                     int sum = 0;
-                    for (int i = 1; i <= x.makes(weight, true); i++) {
+                    for (int i = 1; i <= size; i++) {
                         sum += x.table(weight, n, i, i);
                     }
                     due.same(prime + " " + weight + " " + n, x.traceLeft(weight, n), sum % prime);
@@ -118,9 +119,9 @@ public final class DefinitionsTest {
 
     private static void tracesAndShares() {
         due.part("traces and shares");
-        HeckeSeries x = new HeckeSeries();
-        HeckeSeries y = Due.with("prime 9973;");
         for (int weight = 4; weight <= 60; weight += 2) {
+            HeckeSeries x = new HeckeSeries();
+            HeckeSeries y = Due.with("prime 9973;");
             for (int n = 1; n <= 60; n++) {
                 BigInteger want = wholeTrace(weight, n);
                 due.same("left " + weight + " " + n, x.traceLeft(weight, n), left(want, 1009));
@@ -235,8 +236,8 @@ public final class DefinitionsTest {
 
     private static void classNumbers() {
         due.part("class numbers");
-        HeckeSeries x = new HeckeSeries();
         for (int d = -8; d <= 2000; d++) {
+            HeckeSeries x = new HeckeSeries();
             boolean such = d >= 1 && (d % 4 == 0 || d % 4 == 3);
             int[] want = such ? byForms(d) : new int[] {d == 0 ? -1 : 0, 0};
             due.same("whole " + d, x.whole(d), want[0]);
@@ -268,8 +269,8 @@ public final class DefinitionsTest {
     private static void polynomialsAndRoots() {
         due.part("polynomials and roots");
         for (int prime : PRIMES) {
-            HeckeSeries x = Due.with("prime " + prime + ";");
             for (int weight = 0; weight <= 60; weight += 2) {
+                HeckeSeries x = Due.with("prime " + prime + ";");
                 int size = x.makes(weight, true);
                 int[] polynomial = new int[size + 1];
                 for (int i = 0; i <= size; i++) {

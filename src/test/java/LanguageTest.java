@@ -9,6 +9,7 @@ import java.nio.file.Path;
 import java.util.Arrays;
 import java.util.Set;
 import java.util.TreeSet;
+import java.util.regex.Matcher;
 import java.util.regex.Pattern;
 
 /** The face of the document, and those rules of LANGUAGE.md that a text or a class file shows. */
@@ -49,19 +50,38 @@ public final class LanguageTest {
                 String parameters = Arrays.toString(method.getParameterTypes()).replaceAll("[\\[\\] ]", "");
                 found.add(method.getReturnType() + " " + method.getName() + "(" + parameters + ")");
                 publicNames.add(method.getName());
+                due.same(method.getName() + " is public", Modifier.isPublic(method.getModifiers()), true);
+                boolean throwing = method.getName().equals("whole") || method.getName().equals("row");
+                due.same(method.getName() + " says that it throws", Arrays.toString(method.getExceptionTypes()),
+                        throwing ? "[class java.util.NoSuchElementException]" : "[]");
             }
+        }
+        for (Method method : HeckeSeries.class.getDeclaredMethods()) {
+            boolean named = publicNames.contains(method.getName());
+            due.same(method + " bears a public name", named, isOpen(method));
         }
         due.same("methods", String.join("; ", found), FACE);
         for (Field field : HeckeSeries.class.getDeclaredFields()) {
             due.same("field " + field.getName(), isOpen(field), field.getName().equals("NONE"));
         }
-        Constructor<?>[] constructors = HeckeSeries.class.getDeclaredConstructors();
-        due.same("constructors", constructors.length + " " + constructors[0].getParameterCount(), "1 0");
+        constantAndConstructor();
         for (Class<?> type : HeckeSeries.class.getDeclaredClasses()) {
             for (Method method : type.getDeclaredMethods()) {
                 due.same(method.getName(), publicNames.contains(method.getName()), false);
             }
         }
+    }
+
+    private static void constantAndConstructor() {
+        try {
+            Field none = HeckeSeries.class.getDeclaredField("NONE");
+            due.same("NONE", Modifier.toString(none.getModifiers()) + " " + none.getType() + " " + none.get(null),
+                    "public static final int -1");
+        } catch (ReflectiveOperationException e) {
+            due.same("NONE", e, "public static final int -1");
+        }
+        Constructor<?>[] constructors = HeckeSeries.class.getDeclaredConstructors();
+        due.same("constructors", constructors.length + " " + constructors[0], "1 public HeckeSeries()");
     }
 
     private static boolean isOpen(Member member) {
@@ -106,6 +126,25 @@ public final class LanguageTest {
             due.same("line " + (i + 1) + " is ASCII", lines[i].chars().allMatch(c -> c >= 32 && c < 127), true);
         }
         due.same("imports", imports, 2);
+        lengths(lines);
+    }
+
+    /** Methods stand four or eight blanks in, and end with a bracket as far in. */
+    private static void lengths(String[] lines) {
+        Pattern beginning = Pattern.compile("( {4}| {8})(?! |if |for |while |switch |else |do )[\\w\\[\\] ]+\\(.*");
+        int methods = 0;
+        for (int i = 0; i < lines.length; i++) {
+            Matcher matcher = beginning.matcher(lines[i]);
+            if (matcher.matches() && lines[i].endsWith("{")) {
+                int end = i;
+                while (end < lines.length && !lines[end].equals(matcher.group(1) + "}")) {
+                    end++;
+                }
+                methods++;
+                due.same("line " + (i + 1) + " begins a short method", end - i < 60, true);
+            }
+        }
+        due.same("methods found: " + methods, methods > 100, true);
     }
 
     private static boolean isClassLine(String line) {

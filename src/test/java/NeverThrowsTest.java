@@ -10,7 +10,10 @@ import java.util.Random;
 /** Any arguments in any state: only whole and row throw, what they may; and a run's room is small. */
 public final class NeverThrowsTest {
     private static final int RUNS = 400;
+    /** What later calls of an object answer is free. */
     private static final int CALLS = 512;
+    /** The longest of the random texts, fed twenty bytes at a time, and its book. */
+    private static final int CALLS_OF_A_BOOK = 16;
     private static final int[] EDGES = {Integer.MIN_VALUE, Integer.MIN_VALUE + 1, -61, -5, -2, -1, 0, 1, 2, 3, 4,
         5, 6, 12, 13, 14, 24, 26, 30, 31, 36, 48, 50, 58, 59, 60, 61, 62, 180, 181, 600, 601, 2000, 2001,
         Integer.MAX_VALUE - 1, Integer.MAX_VALUE};
@@ -38,11 +41,15 @@ public final class NeverThrowsTest {
 
     private static void oneRun(Random random, List<Method> calls) {
         HeckeSeries x = new HeckeSeries();
-        for (int made = 0; made < CALLS; made++) {
-            if (random.nextInt(6) == 0) {
-                due.same("a book", Due.book(x, text(random)) != Integer.MAX_VALUE, true);
+        int made = 0;
+        while (made < CALLS) {
+            if (random.nextInt(6) == 0 && made + CALLS_OF_A_BOOK <= CALLS) {
+                String text = text(random);
+                due.same("a book", Due.book(x, text) != Integer.MAX_VALUE, true);
+                made += (text.length() + 19) / 20 + 1;
                 continue;
             }
+            made++;
             Method method = calls.get(random.nextInt(calls.size()));
             Class<?>[] types = method.getParameterTypes();
             Object[] arguments = new Object[types.length];
@@ -78,7 +85,7 @@ public final class NeverThrowsTest {
         }
     }
 
-    /** After its first use of a weight, an object makes nothing more (a room has 7.3 million fields). */
+    /** After its first use of a weight, an object makes nothing more, with another prime either. */
     private static void room() {
         due.part("room");
         com.sun.management.ThreadMXBean threads =
@@ -87,21 +94,21 @@ public final class NeverThrowsTest {
         long before = threads.getThreadAllocatedBytes(self);
         HeckeSeries x = new HeckeSeries();
         long made = threads.getThreadAllocatedBytes(self);
-        useAll(x);
+        useAll(x, 2);
         long used = threads.getThreadAllocatedBytes(self);
-        useAll(x);
+        // "prime 101;", in numbers, as a text would take room of its own
+        x.feed(0x7072696d, 0x65203130, 0x313b2020, 0x20202020, 0x20202020);
+        due.same("another prime", x.book(20) + x.count(0), 101);
+        useAll(x, 8);
         long again = threads.getThreadAllocatedBytes(self);
         due.same("a new object: " + (made - before) + " bytes", made - before < 60_000, true);
         due.same("all weights: " + (used - made) + " bytes", used - made < 200_000, true);
         due.same("once more: " + (again - used) + " bytes", again - used < 5_000, true);
     }
 
-    private static void useAll(HeckeSeries x) {
-        for (int i = 0; i < 30; i++) {
-            x.feed(0x20202020, 0x20202020, 0x20202020, 0x20202020, 0x20202020);
-        }
-        x.book(600);
-        for (int weight = 0; weight <= 60; weight += 2) {
+    /** Weights from 0 on; both uses of the room's object have fewer than 512 calls together. */
+    private static void useAll(HeckeSeries x, int step) {
+        for (int weight = 0; weight <= 60; weight += step) {
             x.root(weight, -1);
             x.own(weight % 4, weight, 0);
             x.table(weight, 30, 1, 1);
@@ -111,12 +118,12 @@ public final class NeverThrowsTest {
             x.multiplies(weight % 4, 29);
             x.plus(0, 1, 5);
             x.times(1, 2);
-            x.trace(weight, 12);
             x.traceLeft(weight, 60);
             x.share(weight, 7);
-            x.put(0, 1, false, 0);
             x.put(1, 1, true, weight);
-            x.image(weight % 2, weight % 8 == 6);
         }
+        x.put(0, 1, false, 0);
+        x.image(0, false);
+        x.image(0, true);
     }
 }
