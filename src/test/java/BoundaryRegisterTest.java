@@ -29,6 +29,7 @@ public final class BoundaryRegisterTest {
         multipliesBounds();
         multipliesByNone();
         otherMultiplies();
+        noHecke31();
         alikeUpTo();
         alikeOfUnlikeWeights();
         otherAlike();
@@ -380,6 +381,19 @@ public final class BoundaryRegisterTest {
         }
         for (int r : NO_REGISTERS) {
             b.leavesAll("multiplies of " + r, Rich.Sort.RICH, x -> x.multiplies(r, 1), -1);
+        }
+    }
+
+    /** Whatever the register is: 0 of several weights, by none, by some. */
+    private static void noHecke31() {
+        b.sentence("part 3", "HECKE n (1 to 30) of a FORM of WEIGHT k");
+        HeckeSeries x = taken("let a be 0;let b be 0*delta;let c be four^3;let d be 3;");
+        int[] at30 = {-2, -2, -2, 0};
+        for (int r = 0; r < 4; r++) {
+            b.same("30 of " + r, x.multiplies(r, 30), at30[r]);
+            b.same("31 of " + r, x.multiplies(r, 31), -1);
+            b.same("0 of " + r, x.multiplies(r, 0), -1);
+            b.same("hecke 31 of " + r, x.hecke(r, 31), false);
         }
     }
 

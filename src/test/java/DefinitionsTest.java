@@ -17,6 +17,7 @@ public final class DefinitionsTest {
         tracesAndShares();
         classNumbers();
         heckeOfProducts();
+        tables();
         polynomialsAndRoots();
         due.end();
     }
@@ -44,6 +45,14 @@ public final class DefinitionsTest {
             }
         }
         return series;
+    }
+
+    private static BigInteger[] power(BigInteger[] series, int exponent) {
+        BigInteger[] answer = one;
+        for (int i = 0; i < exponent; i++) {
+            answer = product(answer, series);
+        }
+        return answer;
     }
 
     private static BigInteger[] deltaOf() {
@@ -79,16 +88,7 @@ public final class DefinitionsTest {
         if (rest - 6 * b < 0) {
             return;
         }
-        BigInteger[] want = one;
-        for (int i = 0; i < a; i++) {
-            want = product(want, four);
-        }
-        for (int i = 0; i < b; i++) {
-            want = product(want, six);
-        }
-        for (int i = 0; i < j; i++) {
-            want = product(want, delta);
-        }
+        BigInteger[] want = product(product(power(four, a), power(six, b)), power(delta, j));
         for (int prime : new int[] {101, 9973}) {
             HeckeSeries x = Due.with("prime " + prime + ";let a be four^" + a + "*six^" + b + "*delta^" + j + ";");
             x.take(0, 0);
@@ -266,6 +266,66 @@ public final class DefinitionsTest {
         }
     }
 
+    /** Every table, from whole cusps; and its polynomial against determinants. */
+    private static void tables() {
+        for (int weight = 12; weight <= 60; weight += 2) {
+            BigInteger[][] cusps = cuspsOf(weight);
+            for (int prime : new int[] {101, 1009, 9973}) {
+                for (int n = 1; n <= 30; n++) {
+                    oneTable(cusps, weight, n, prime);
+                }
+            }
+        }
+    }
+
+    /** The i-th (from 0) has 1 at i + 1 and 0 at the other places up to their number. */
+    private static BigInteger[][] cuspsOf(int weight) {
+        int size = weight % 12 == 2 ? weight / 12 - 1 : weight / 12;
+        BigInteger[][] cusps = new BigInteger[size][];
+        for (int i = size - 1; i >= 0; i--) {
+            int rest = weight - 12 * (i + 1);
+            int sixes = rest % 4 == 0 ? 0 : 1;
+            cusps[i] = product(product(power(four, (rest - 6 * sixes) / 4), power(six, sixes)), power(delta, i + 1));
+            for (int j = i + 1; j < size; j++) {
+                BigInteger factor = cusps[i][j + 1];
+                for (int n = 0; n < SIZE; n++) {
+                    cusps[i][n] = cusps[i][n].subtract(factor.multiply(cusps[j][n]));
+                }
+            }
+        }
+        return cusps;
+    }
+
+    private static void oneTable(BigInteger[][] cusps, int weight, int n, int prime) {
+        due.part("table " + weight + ", " + n + " by " + prime);
+        HeckeSeries x = Due.with("prime " + prime + ";");
+        int size = cusps.length;
+        long[][] rows = new long[size][size];
+        for (int i = 0; i < size; i++) {
+            for (int j = 0; j < size; j++) {
+                rows[i][j] = left(heckeAt(cusps[i], weight, n, j + 1), prime);
+                due.same((i + 1) + ", " + (j + 1), x.table(weight, n, i + 1, j + 1), rows[i][j]);
+            }
+        }
+        int[] polynomial = new int[size + 1];
+        for (int i = 0; i <= size; i++) {
+            polynomial[i] = x.polynomial(weight, n, i);
+        }
+        for (int at = 0; at <= size; at++) {
+            due.same("polynomial at " + at, valueAt(polynomial, at, prime), determinantAt(rows, at, prime));
+        }
+    }
+
+    private static BigInteger heckeAt(BigInteger[] series, int weight, int n, int m) {
+        BigInteger sum = BigInteger.ZERO;
+        for (int d = 1; d <= n; d++) {
+            if (n % d == 0 && m % d == 0) {
+                sum = sum.add(BigInteger.valueOf(d).pow(weight - 1).multiply(series[m * n / (d * d)]));
+            }
+        }
+        return sum;
+    }
+
     private static void polynomialsAndRoots() {
         due.part("polynomials and roots");
         for (int prime : PRIMES) {
@@ -276,8 +336,14 @@ public final class DefinitionsTest {
                 for (int i = 0; i <= size; i++) {
                     polynomial[i] = x.polynomial(weight, 2, i);
                 }
+                long[][] rows = new long[size][size];
+                for (int i = 0; i < size; i++) {
+                    for (int j = 0; j < size; j++) {
+                        rows[i][j] = x.table(weight, 2, i + 1, j + 1);
+                    }
+                }
                 for (int at = 0; at <= size; at++) {
-                    due.same("at " + at, valueAt(polynomial, at, prime), determinantAt(x, weight, size, at, prime));
+                    due.same("at " + at, valueAt(polynomial, at, prime), determinantAt(rows, at, prime));
                 }
                 roots(x, weight, polynomial, prime);
             }
@@ -292,11 +358,13 @@ public final class DefinitionsTest {
         return sum;
     }
 
-    private static long determinantAt(HeckeSeries x, int weight, int size, int at, int prime) {
+    /** The determinant of at less the table. */
+    private static long determinantAt(long[][] table, int at, int prime) {
+        int size = table.length;
         long[][] rows = new long[size][size];
         for (int i = 0; i < size; i++) {
             for (int j = 0; j < size; j++) {
-                rows[i][j] = (i == j ? at : 0) - x.table(weight, 2, i + 1, j + 1);
+                rows[i][j] = (i == j ? at : 0) - table[i][j];
             }
         }
         return Math.floorMod(byMinors(rows, size, prime), (long) prime);
